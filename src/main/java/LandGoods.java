@@ -1152,19 +1152,19 @@ public final class LandGoods {
                 of.wages[0] = couple.firstWage;
                 of.wages[1] = couple.secondWage;
             } else if (of.lands == 3) {
-                settleThree(of);
+                clearWins();
+                if (!findTied(of, 0, 1) && !findTied(of, 0, 2) && !findTied(of, 1, 2)) {
+                    settleApart(of);
+                }
             }
             shorten(of);
         }
 
-        private void settleThree(World of) {
+        private void clearWins() {
             for (int land = 0; land < MOST_LANDS; land++) {
-                for (int good = 0; good < of.goods; good++) {
+                for (int good = 0; good < MOST_GOODS; good++) {
                     wins[land][good] = 0;
                 }
-            }
-            if (!findTied(of, 0, 1) && !findTied(of, 0, 2) && !findTied(of, 1, 2)) {
-                settleApart(of);
             }
         }
 

@@ -6,6 +6,7 @@ public final class WorldsTest {
         feed();
         worldsThatAreRead();
         faults();
+        whereTheTapeEnds();
         aFaultLeavesTheWorld();
         told();
         DUE.end("WorldsTest");
@@ -70,6 +71,14 @@ public final class WorldsTest {
         broken("Good 1;", 0, 1);
         broken("goodly 1;", 0, 1);
         broken("goo 1;", 0, 1);
+        broken("goodz 1;", 0, 1);
+        broken("agood 1;", 0, 1);
+        broken("good 1;landa 1 1;", 7, 1);
+        broken("good `1;", 5, 1);
+        broken("good {1;", 5, 1);
+        broken("good /1;", 5, 1);
+        broken("good :1;", 5, 1);
+        broken("good -1;", 5, 1);
         broken("good\t1;", 4, 1);
         broken("good ;", 5, 1);
         broken("good 1 2;", 7, 1);
@@ -92,6 +101,28 @@ public final class WorldsTest {
         broken("good 1;land 1 1;land 1 1;land 1 1;land", 34, 3);
         broken("good 1;land 1 1;land 1 1;land 1 1;good", 34, 1);
         broken("good 1;land 1 1;" + (char) 228, 16, 1);
+    }
+
+    /** Neither what an earlier text left behind the end may be read, nor a byte behind a full tape. */
+    private static void whereTheTapeEnds() {
+        LandGoods x = new LandGoods();
+        Due.feedText(x, "goodx 1;");
+        x.world();
+        Due.feedText(x, "good");
+        DUE.is("7: a word that ends the tape", x.world(), LandGoods.NOT - 100 - 4);
+        Due.feedText(x, "good 123;");
+        x.world();
+        Due.feedText(x, "good 12");
+        DUE.is("7: a number that ends the tape", x.world(), LandGoods.NOT - 100 - 7);
+        for (String last : new String[] {"good", "good 1", "good 1;land 1 1;x", "good 1;land 1 1;1"}) {
+            Due.feedText(x, " ".repeat(400 - last.length()) + last);
+            DUE.is("7: a full tape that ends in '" + last + "': bytes", x.count(5), 400);
+            int place = last.length() > 6 ? 399 : 400;
+            DUE.is("7: a full tape that ends in '" + last + "'", x.world(), LandGoods.NOT - 100 - place);
+        }
+        String text = "good 1;land 1 1;";
+        Due.feedText(x, text + "\n".repeat(400 - text.length()));
+        DUE.is("7: a full tape", x.world(), 1);
     }
 
     private static void aFaultLeavesTheWorld() {
