@@ -10,10 +10,14 @@ public final class AskedTest {
 
     public static void main(String[] args) {
         kind();
+        kindsByHowManyLands();
         as();
         ask();
+        askOfTheGreatest();
         trace();
+        theTraceIsEmptyAhead();
         count();
+        theMostThereCanBe();
         DUE.end("AskedTest");
     }
 
@@ -116,5 +120,115 @@ public final class AskedTest {
         DUE.is("25: no such below", x.count(-1), Due.BAD);
         DUE.is("25: EVERY ones are COMMON, too", Due.worldOf(TIED).count(4), 1);
         DUE.is("25: none is", Due.worldOf(APART).count(4), 0);
+    }
+
+    private static void kindIs(String text, int good, int kind) {
+        DUE.is("21: kind(" + good + ") of '" + text + "'", Due.worldOf(text).kind(good), kind);
+    }
+
+    /** "It is told as the last that fits": by how many MAKERS of how many LANDS, and who. */
+    private static void kindsByHowManyLands() {
+        kindIs("good 1;land 1 1;", 0, 4);
+        kindIs("good 1;land 1 9;", 0, 4);
+        kindIs("good 1;land 1 10;", 0, 5);
+        kindIs("good 1;land 1 20;", 0, 5);
+        kindIs("good 1;land 1 9;land 1 9;", 0, 3);
+        kindIs("good 1;land 1 20;land 1 20;", 0, 3);
+        kindIs("good 1;land 1 9;land 1 9;land 1 9;", 0, 3);
+        String twoOfThree = "good 1;good 1;land 10 1 20;land 10 1 20;land 10 20 1;";
+        kindIs(twoOfThree, 0, 2);
+        kindIs(twoOfThree, 1, 1);
+        String homeAndOthers = "good 1;good 2;land 10 9 20;land 10 20 1;land 10 20 1;";
+        kindIs(homeAndOthers, 0, 4);
+        kindIs(homeAndOthers, 1, 2);
+        kindIs("good 1;good 2;land 10 10 20;land 10 20 1;land 10 20 1;", 0, 5);
+        // A PRICE of 10 or more of another LAND's is not DEAR, as it is not HOME.
+        kindIs("good 1;good 1;land 10 1 20;land 10 20 10;", 1, 1);
+    }
+
+    /** Greatest shares, numbers and makers. */
+    private static void askOfTheGreatest() {
+        String five = "good 20;good 20;good 20;good 20;good 20;";
+        String one = five + "good 20;land 1 20 20 20 20 20 20;";
+        asked(one, 5, 0, 145, 15, 14, 11, 10, 23, 21, 20, 23, 21, 20);
+        asked(one, 5, 1, 105, 23, 21, 20);
+        String home = five + "good 20;land 1 20 20 20 20 20 9;";
+        asked(home, 5, 0, 250, 14, 11, 10, 23, 21, 20);
+        String every = five + "good 20;land 9 1 1 1 1 1 1;land 9 1 1 1 1 1 1;land 9 1 1 1 1 1 1;";
+        asked(every, 5, 0, 59, 13, 12, 10);
+        asked(every, 5, 1, 64, 22, 20, 13, 12, 10);
+        asked(every, 0, 0, 59, 13, 12, 10);
+        asked(every, 0, 1, 59, 22, 20, 13, 12, 10);
+        String alone = "good 20;good 20;good 20;land 10 1 20 20;land 10 20 1 20;land 10 20 20 1;";
+        asked(alone, 2, 0, 42, 11, 10, 21, 20);
+        asked(alone, 2, 1, 22, 21, 20);
+        String common = "good 1;good 20;land 10 1 20;land 10 20 1;land 10 20 1;";
+        asked(common, 1, 0, 40, 12, 10);
+        asked(common, 1, 1, 1, 20);
+        // By what is at rest now: what is learned makes a HOME good an EVERY one.
+        LandGoods x = Due.worldOf("good 1;good 1;land 10 1 2;land 10 2 1;");
+        DUE.is("21: ahead of learning", x.kind(0), 4);
+        DUE.is("23: ahead of learning", x.ask(0, 0), 202);
+        x.learn(1, 0, 0);
+        DUE.is("21: behind learning", x.kind(0), 3);
+        DUE.is("23: behind learning", x.ask(0, 0), 1);
+        DUE.is("22: behind learning", x.as(0, 4), Due.KIND);
+    }
+
+    /** "THE TRACE is empty ahead of it", "NONE": behind its end, below it, and without any ask. */
+    private static void theTraceIsEmptyAhead() {
+        LandGoods x = new LandGoods();
+        for (int i : new int[] {Integer.MIN_VALUE, -1, 0, 1, 15, 16, Integer.MAX_VALUE}) {
+            DUE.is("24: trace(" + i + ") ahead of any ask", x.trace(i), LandGoods.NONE);
+        }
+        Due.feedText(x, APART);
+        x.world();
+        DUE.is("24: a world is no ask", x.trace(0), LandGoods.NONE);
+        x.kind(0);
+        x.as(0, 5);
+        DUE.is("24: nor is kind() or as()", x.trace(0), LandGoods.NONE);
+        for (int times = 0; times < 2; times++) {
+            x.ask(0, 0);
+            int[] bodies = {15, 14, 11, 10, 23, 21, 20, 23, 21, 20};
+            for (int i = 0; i < bodies.length; i++) {
+                DUE.is("24: the same ask, the same trace, " + i, x.trace(i), bodies[i]);
+            }
+            for (int i = bodies.length; i <= 17; i++) {
+                DUE.is("24: behind its end, " + i, x.trace(i), LandGoods.NONE);
+            }
+        }
+        x.ask(2, 0);
+        x.ask(0, -1);
+        DUE.is("24: what is refused leaves it", x.trace(9), 20);
+        Due.feedText(x, TIED);
+        x.world();
+        x.move(1);
+        x.learn(0, 1, 1);
+        DUE.is("24: another world leaves it", x.trace(9), 20);
+        x.ask(1, 0);
+        DUE.is("24: the next ask does not", x.trace(3), LandGoods.NONE);
+        DUE.is("24: and has its own", x.trace(0), 13);
+    }
+
+    /** The counts where they can go no further. */
+    private static void theMostThereCanBe() {
+        LandGoods x = Due.worldOf("good 1;good 1;good 1;good 1;good 1;good 1;"
+                + "land 99 1 1 1 1 1 1;land 99 1 1 1 1 1 1;land 99 1 1 1 1 1 1;");
+        for (int row = 0; row < 8; row++) {
+            x.row(row, 0, 0);
+        }
+        for (int n = 0; n < 50; n++) {
+            x.feed(0, 8);
+        }
+        long[] most = {8, 3, 6, 297, 6, 400};
+        for (int what = 0; what <= 5; what++) {
+            DUE.is("25: the most of " + what, x.count(what), most[what]);
+        }
+        x.drop(3);
+        x.drop(3);
+        DUE.is("25: one ROW fewer", x.count(0), 7);
+        x.world();
+        DUE.is("25: a tape that was read", x.count(5), 0);
+        DUE.is("25: no such count", x.count(6), Due.BAD);
     }
 }

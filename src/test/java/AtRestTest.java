@@ -14,6 +14,15 @@ public final class AtRestTest {
         gain();
         judge();
         threeApart();
+        oneLand();
+        makersAreAllThatHaveTheLeast();
+        fractionsAreInLowestTerms();
+        widestWages();
+        anyOrderOfLands();
+        moreThanIsNotAsMuchAs();
+        eachSetOfLands();
+        wagesByHandAsTold();
+        asManyItemsAsLands();
         DUE.end("AtRestTest");
     }
 
@@ -126,5 +135,171 @@ public final class AtRestTest {
         priceIs(x, 1, 3, 2, 2);
         priceIs(x, 2, 5, 4, 4);
         fraction("12: gain of 2 by good 1", x.gain(2, 1, 0), x.gain(2, 1, 1), 50, 3);
+    }
+
+    /** One land makes all, at its own hours. */
+    private static void oneLand() {
+        LandGoods x = Due.worldOf("good 20;good 1;land 99 20 1;");
+        wageIs(x, 0, 1, 1);
+        priceIs(x, 0, 20, 1, 1);
+        priceIs(x, 1, 1, 1, 1);
+        fraction("12: gain of one land", x.gain(0, 0, 0), x.gain(0, 0, 1), 1, 1);
+        fraction("12: gain of one land", x.gain(0, 1, 0), x.gain(0, 1, 1), 1, 1);
+    }
+
+    /** "MAKERS: all LANDS that have this least": also one that none of the good's coin needs to go to. */
+    private static void makersAreAllThatHaveTheLeast() {
+        LandGoods x = Due.worldOf("good 1;good 1;land 10 1 1;land 10 2 1;");
+        wageIs(x, 1, 1, 1);
+        priceIs(x, 0, 1, 1, 1);
+        priceIs(x, 1, 1, 1, 3);
+        x = Due.worldOf("good 1;good 1;land 10 1 2;land 10 2 1;");
+        priceIs(x, 0, 1, 1, 1);
+        priceIs(x, 1, 1, 1, 2);
+        x = Due.worldOf("good 1;good 1;good 1;land 10 1 1 9;land 10 9 1 9;land 10 9 1 1;");
+        wageIs(x, 1, 1, 1);
+        wageIs(x, 2, 1, 1);
+        priceIs(x, 0, 1, 1, 1);
+        priceIs(x, 1, 1, 1, 7);
+        priceIs(x, 2, 1, 1, 4);
+        x = Due.worldOf("good 1;land 5 1;land 7 20;land 99 7;");
+        priceIs(x, 0, 1, 1, 7);
+        wageIs(x, 1, 1, 20);
+        wageIs(x, 2, 1, 7);
+    }
+
+    private static void isLowest(String what, long above, long below) {
+        DUE.is(what + ": above 0, both", above > 0 && below > 0 ? 1 : 0, 1);
+        DUE.is(what + ": in lowest terms, " + above + " by " + below, Model.gcd(above, below), 1);
+    }
+
+    /** "in lowest terms (above 0, both)". */
+    private static void fractionsAreInLowestTerms() {
+        for (String text : new String[] {TIED, APART, TWINS, "good 20;good 10;land 20 2 4;land 10 8 6;",
+            "good 6;good 4;good 10;land 12 2 20 20;land 18 20 4 20;land 30 20 20 6;",
+            "good 3;good 5;good 2;good 7;good 1;land 20 3 7 2 9 4;land 35 5 4 6 8 1;land 8 2 9 9 3 5;"}) {
+            LandGoods x = Due.worldOf(text);
+            fraction("10: wage of 0 of '" + text + "'", x.wage(0, 0), x.wage(0, 1), 1, 1);
+            for (int good = 0; good < x.count(2); good++) {
+                isLowest("11: price", x.price(good, 0), x.price(good, 1));
+                for (int land = 0; land < x.count(1); land++) {
+                    isLowest("10: wage", x.wage(land, 0), x.wage(land, 1));
+                    isLowest("12: gain", x.gain(land, good, 0), x.gain(land, good, 1));
+                    DUE.is("12: nobody lives worse than alone", x.gain(land, good, 0) < x.gain(land, good, 1) ? 1 : 0, 0);
+                }
+            }
+        }
+        LandGoods x = Due.worldOf("good 6;good 4;good 10;land 12 2 20 20;land 18 20 4 20;land 30 20 20 6;");
+        wageIs(x, 1, 4, 9);
+        wageIs(x, 2, 2, 3);
+        priceIs(x, 0, 2, 1, 1);
+        priceIs(x, 1, 16, 9, 2);
+        priceIs(x, 2, 4, 1, 4);
+        fraction("12: gain of 0 by good 1", x.gain(0, 1, 0), x.gain(0, 1, 1), 45, 4);
+    }
+
+    /** The bounds of shares, HANDS and HOURS at once. */
+    private static void widestWages() {
+        LandGoods x = Due.worldOf("good 20;good 1;land 1 1 20;land 99 20 1;");
+        // Apart, land 1 would have 1/99 of 1/20 of the wage; at a twentieth it makes good 1 and can make good 0 as well.
+        wageIs(x, 1, 1, 20);
+        priceIs(x, 0, 1, 1, 3);
+        priceIs(x, 1, 1, 20, 2);
+        fraction("12: the greatest gain", x.gain(0, 1, 0), x.gain(0, 1, 1), 400, 1);
+        x = Due.worldOf("good 20;good 1;land 99 1 20;land 1 20 1;");
+        wageIs(x, 1, 99, 20);
+        priceIs(x, 1, 99, 20, 2);
+        x = Due.worldOf("good 19;good 17;good 13;land 97 1 20 20;land 89 20 1 20;land 83 20 20 1;");
+        wageIs(x, 1, 17 * 97, 89 * 19);
+        wageIs(x, 2, 13 * 97, 83 * 19);
+        priceIs(x, 2, 13 * 97, 83 * 19, 4);
+        fraction("12: gain of 1 by good 2", x.gain(1, 2, 0), x.gain(1, 2, 1), 20 * 17 * 83, 13 * 89);
+    }
+
+    /** Which LAND is 0 changes the unit alone: wages stay to one another as they were. */
+    private static void anyOrderOfLands() {
+        String goods = "good 3;good 5;good 2;good 7;good 1;";
+        String[] lands = {"land 20 3 7 2 9 4;", "land 35 5 4 6 8 1;", "land 8 2 9 9 3 5;"};
+        long[] wages = {13, 12, 32};
+        int[][] orders = {{0, 1, 2}, {0, 2, 1}, {1, 0, 2}, {1, 2, 0}, {2, 0, 1}, {2, 1, 0}};
+        for (int[] order : orders) {
+            LandGoods x = Due.worldOf(goods + lands[order[0]] + lands[order[1]] + lands[order[2]]);
+            for (int land = 0; land < 3; land++) {
+                long common = Model.gcd(wages[order[land]], wages[order[0]]);
+                wageIs(x, land, wages[order[land]] / common, wages[order[0]] / common);
+            }
+        }
+    }
+
+    /** "of which INCOMES, added, are more than all that GOODS get": just as much is not IDLE, the least more is. */
+    private static void moreThanIsNotAsMuchAs() {
+        LandGoods x = Due.worldOf(APART);
+        judged(x, 0, 2, 5);
+        judged(x, 0, 398, 995);
+        judged(x, 1, 399, 997);
+        judged(x, 2, 398, 996);
+        judged(x, 1, 398, 994);
+        x = Due.worldOf("good 1;good 1;land 10 1 1;land 10 2 1;");
+        judged(x, 0, 1, 1);
+        judged(x, 0, 999, 999);
+        judged(x, 1, 999, 998);
+        judged(x, 2, 998, 999);
+    }
+
+    /** "the least number": each set of LANDS that can be it. */
+    private static void eachSetOfLands() {
+        LandGoods x = Due.worldOf("good 1;good 1;land 10 1 9;land 10 9 1;land 10 1 9;");
+        judged(x, 0, 1, 2, 1);
+        judged(x, 1, 2, 2, 1);
+        judged(x, 2, 1, 3, 1);
+        judged(x, 4, 1, 2, 2);
+        judged(x, 5, 1, 1, 1);
+        x = Due.worldOf("good 1;good 1;land 10 9 1;land 10 1 9;land 10 1 9;");
+        judged(x, 6, 1, 1, 1);
+        judged(x, 0, 2, 1, 1);
+        // Of {1}, {2} and {1, 2} together, the least.
+        judged(x, 2, 1, 18, 18);
+        x = Due.worldOf(TWINS);
+        judged(x, 3, 1, 1, 1);
+        // One land alone has more hands than work only if others make its goods.
+        x = Due.worldOf("good 1;land 99 20;");
+        judged(x, 0, 1);
+        judged(x, 0, 999);
+    }
+
+    /** "as many ITEMS (1 to 999)": of each land, either side of each bound. */
+    private static void wagesByHandAsTold() {
+        LandGoods x = Due.worldOf(TWINS);
+        for (int land = 0; land < 3; land++) {
+            for (int v : new int[] {Integer.MIN_VALUE, -1, 0, 1, 999, 1000, Integer.MAX_VALUE}) {
+                Due.fill(x, 0, 5, 5, 5);
+                x.set(0, land, v);
+                boolean fine = v >= 1 && v <= 999;
+                DUE.is("13: a wage of " + v + " of land " + land + " is BAD", x.judge(0, 0) == Due.BAD ? 1 : 0, fine ? 0 : 1);
+            }
+        }
+    }
+
+    /** "as many ITEMS of a ROW from i on as there are LANDS": no more, and no fewer. */
+    private static void asManyItemsAsLands() {
+        String[] texts = {"good 1;land 1 1;", "good 1;land 1 1;land 1 1;", "good 1;land 1 1;land 1 1;land 1 1;"};
+        for (int lands = 1; lands <= 3; lands++) {
+            LandGoods x = Due.worldOf(texts[lands - 1]);
+            for (int n = 0; n <= 5; n++) {
+                Due.fill(x, 0, java.util.Arrays.copyOf(new int[] {7, 7, 7, 7, 7}, n));
+                for (int i = -1; i <= n + 1; i++) {
+                    boolean fits = i >= 0 && i + lands <= n;
+                    DUE.is("13: judge of " + lands + " lands, " + n + " items, from " + i, x.judge(0, i),
+                            fits ? 0 : Due.PLACE);
+                }
+            }
+            // An item ahead of the first or behind the last may be as it likes.
+            int[] items = new int[lands + 2];
+            java.util.Arrays.fill(items, 1, lands + 1, 7);
+            Due.fill(x, 1, items);
+            DUE.is("13: items beside them, " + lands + " lands", x.judge(1, 1), 0);
+            DUE.is("13: the one ahead, " + lands + " lands", x.judge(1, 0), Due.BAD);
+            DUE.is("13: the one behind, " + lands + " lands", x.judge(1, 2), Due.BAD);
+        }
     }
 }

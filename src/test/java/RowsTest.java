@@ -5,10 +5,18 @@ public final class RowsTest {
     public static void main(String[] args) {
         aNewObject();
         row();
+        rowsAreMissingAtFirst();
+        aRowHasAsManyItemsAsTold();
+        itemsAreZeroAtFirst();
         set();
+        setKeepsTheLowestBits();
         copy();
+        copyEnds();
+        copyLanes();
+        copyLeavesTheRest();
         drop();
         status();
+        statusOfEachCall();
         DUE.end("RowsTest");
     }
 
@@ -50,6 +58,63 @@ public final class RowsTest {
         DUE.is("2: its end", x.set(7, 3, 0), Due.PLACE);
     }
 
+    /** "ROWS 0 .. 7 are missing (at first)". */
+    private static void rowsAreMissingAtFirst() {
+        LandGoods x = Due.worldOf("good 1;land 1 1;");
+        for (int row = 0; row <= 7; row++) {
+            DUE.is("1: set in row " + row + " at first", x.set(row, 0, 1), Due.NULL);
+            DUE.is("1: copy of row " + row + " at first", x.copy(row, 0, row, 0, 0), Due.NULL);
+            DUE.is("1: drop of row " + row + " at first", x.drop(row), Due.NULL);
+            DUE.is("1: judge of row " + row + " at first", x.judge(row, 0), Due.NULL);
+            DUE.is("1: more of row " + row + " at first", x.more(row, 0), Due.NULL);
+        }
+        for (int row = 0; row <= 7; row++) {
+            DUE.is("2: row(" + row + ", 0, 1)", x.row(row, 0, 1), 1);
+            DUE.is("25: rows, " + row, x.count(0), row + 1);
+            DUE.is("2: the next is missing still", x.drop(row + 1), row == 7 ? Due.BAD : Due.NULL);
+        }
+    }
+
+    /** "0 to 40 ITEMS": the last place there is and the first there is not, for each number of them and each LANE. */
+    private static void aRowHasAsManyItemsAsTold() {
+        LandGoods x = new LandGoods();
+        for (int n = 0; n <= 40; n++) {
+            int lane = n % 3;
+            DUE.is("2: row of " + n, x.row(6, lane, n), n);
+            DUE.is("2: behind the last of " + n, x.set(6, n, 1), Due.PLACE);
+            DUE.is("2: the last of " + n, x.set(6, n - 1, 1), n == 0 ? Due.PLACE : 1);
+            DUE.is("2: ahead of the first of " + n, x.set(6, -1, 1), Due.PLACE);
+            DUE.is("5: drop of " + n, x.drop(6), n);
+        }
+        for (int lane = 0; lane <= 2; lane++) {
+            DUE.is("2: the most of lane " + lane, x.row(0, lane, 40), 40);
+            DUE.is("2: more than that of lane " + lane, x.row(0, lane, 41), Due.BAD);
+            DUE.is("2: none of lane " + lane, x.row(0, lane, 0), 0);
+            DUE.is("2: fewer than none of lane " + lane, x.row(0, lane, -1), Due.SIZE);
+        }
+        DUE.is("2: a row in place of one is one row", x.count(0), 1);
+    }
+
+    /** "ITEMS, 0 at first": whatever stood there before; an item of 0 is no wage, one that was left would be one. */
+    private static void itemsAreZeroAtFirst() {
+        LandGoods x = Due.worldOf("good 1;land 1 1;");
+        for (int way = 0; way < 3; way++) {
+            x.row(0, 2, 40);
+            for (int i = 0; i < 40; i++) {
+                x.set(0, i, 5);
+            }
+            if (way == 1) {
+                x.row(0, 1, 3);
+            } else if (way == 2) {
+                x.drop(0);
+            }
+            x.row(0, 2, 40);
+            for (int i = 0; i < 40; i++) {
+                DUE.is("2: item " + i + " is 0 at first, way " + way, x.judge(0, i), Due.BAD);
+            }
+        }
+    }
+
     private static void set() {
         LandGoods x = new LandGoods();
         x.row(0, 0, 3);
@@ -68,6 +133,29 @@ public final class RowsTest {
         DUE.is("3: set in a missing row", x.set(3, 0, 1), Due.NULL);
         DUE.is("3: set in no row", x.set(8, 0, 1), Due.BAD);
         DUE.is("3: set in no row below", x.set(-1, 0, 1), Due.BAD);
+    }
+
+    /** "v, its lowest bits, as many as the LANE has": either side of each bound, and that it stays so. */
+    private static void setKeepsTheLowestBits() {
+        int[][] bytes = {{0, 0}, {1, 1}, {127, 127}, {128, -128}, {129, -127}, {255, -1}, {256, 0}, {257, 1}, {-1, -1},
+            {-128, -128}, {-129, 127}, {-256, 0}, {32767, -1}, {65536, 0}, {Integer.MAX_VALUE, -1},
+            {Integer.MIN_VALUE, 0}};
+        int[][] shorts = {{0, 0}, {128, 128}, {256, 256}, {32767, 32767}, {32768, -32768}, {65535, -1}, {65536, 0},
+            {65537, 1}, {-32768, -32768}, {-32769, 32767}, {Integer.MAX_VALUE, -1}, {Integer.MIN_VALUE, 0}};
+        int[][] ints = {{0, 0}, {32768, 32768}, {65536, 65536}, {-32769, -32769},
+            {Integer.MAX_VALUE, Integer.MAX_VALUE}, {Integer.MIN_VALUE, Integer.MIN_VALUE}};
+        int[][][] lanes = {bytes, shorts, ints};
+        LandGoods x = Due.worldOf("good 1;land 1 1;land 1 1;");
+        for (int lane = 0; lane <= 2; lane++) {
+            x.row(0, lane, 2);
+            for (int[] pair : lanes[lane]) {
+                DUE.is("3: set(.., " + pair[0] + ") in lane " + lane, x.set(0, 0, pair[0]), pair[1]);
+            }
+            // What is kept is what was answered: 5 and many higher bits is 5, but for ints.
+            x.set(0, 0, 5 + (7 << 16));
+            x.set(0, 1, 5);
+            DUE.is("3: what is kept in lane " + lane, x.judge(0, 0), lane == 2 ? Due.BAD : 0);
+        }
     }
 
     private static void copy() {
@@ -100,6 +188,59 @@ public final class RowsTest {
         itemsAre("4: nor there", x, 1, 3, 3);
     }
 
+    /** "PLACE (i, j, n below 0, or beyond an end)": of two rows of 5 and 3, each number on either side. */
+    private static void copyEnds() {
+        LandGoods x = new LandGoods();
+        x.row(0, 1, 5);
+        x.row(1, 1, 3);
+        int[] numbers = {Integer.MIN_VALUE, -1, 0, 1, 2, 3, 4, 5, 6, Integer.MAX_VALUE - 1, Integer.MAX_VALUE};
+        for (int i : numbers) {
+            for (int n : new int[] {Integer.MIN_VALUE, -1, 0, 1, 2, 3, 4, Integer.MAX_VALUE}) {
+                boolean from = i >= 0 && n >= 0 && (long) i + n <= 5;
+                boolean to = i >= 0 && n >= 0 && (long) i + n <= 3;
+                DUE.is("4: copy(0, " + i + ", 1, 0, " + n + ")", x.copy(0, i, 1, 0, n), from && n <= 3 ? n : Due.PLACE);
+                DUE.is("4: copy(0, 0, 1, " + i + ", " + n + ")", x.copy(0, 0, 1, i, n), to ? n : Due.PLACE);
+            }
+        }
+        x.row(2, 1, 0);
+        DUE.is("4: none of an empty row", x.copy(2, 0, 2, 0, 0), 0);
+        DUE.is("4: one of an empty row", x.copy(2, 0, 0, 0, 1), Due.PLACE);
+        DUE.is("4: one to an empty row", x.copy(0, 0, 2, 0, 1), Due.PLACE);
+        x.row(3, 1, 40);
+        x.row(4, 1, 40);
+        DUE.is("4: all of a full row", x.copy(3, 0, 4, 0, 40), 40);
+        DUE.is("4: more than all of a full row", x.copy(3, 0, 4, 0, 41), Due.PLACE);
+    }
+
+    /** "STORE (ROWS of two LANES)": each LANE with each. */
+    private static void copyLanes() {
+        LandGoods x = new LandGoods();
+        for (int lane = 0; lane <= 2; lane++) {
+            x.row(lane, lane, 2);
+            x.row(lane + 3, lane, 2);
+        }
+        for (int a = 0; a <= 2; a++) {
+            for (int b = 0; b <= 2; b++) {
+                DUE.is("4: from lane " + a + " to lane " + b, x.copy(a, 0, b + 3, 0, 2), a == b ? 2 : Due.STORE);
+            }
+        }
+        x.row(0, 2, 2);
+        DUE.is("4: a row anew has its new lane", x.copy(0, 0, 5, 0, 1), 1);
+        DUE.is("4: and not its old one", x.copy(0, 0, 3, 0, 1), Due.STORE);
+    }
+
+    /** "n ITEMS of a from i on come to b from j on": no others change, and those of a stay. */
+    private static void copyLeavesTheRest() {
+        LandGoods x = new LandGoods();
+        Due.fill(x, 0, 1, 2, 3, 4);
+        Due.fill(x, 1, 4, 4, 4, 4);
+        DUE.is("4: two into the middle", x.copy(0, 1, 1, 1, 2), 2);
+        itemsAre("4: into the middle", x, 1, 4, 2, 3, 4);
+        itemsAre("4: where they came from", x, 0, 1, 2, 3, 4);
+        DUE.is("4: none", x.copy(0, 0, 1, 0, 0), 0);
+        itemsAre("4: none came", x, 1, 4, 2, 3, 4);
+    }
+
     /** No call tells an item, so it is laid beside each number: wages of two like lands are at rest only if alike. */
     private static void itemsAre(String what, LandGoods x, int row, int... items) {
         Due.feedText(x, "good 1;land 1 1;land 1 1;");
@@ -126,6 +267,63 @@ public final class RowsTest {
         DUE.is("5: drop(-1)", x.drop(-1), Due.BAD);
         x.row(0, 1, 2);
         DUE.is("5: anew, with 0", x.set(0, 1, 9), 9);
+    }
+
+    /** "Of the latest call with a ROW, or as()": each such call tells 0 behind a finding, no other one does. */
+    private static void statusOfEachCall() {
+        String text = "good 1;land 1 1;";
+        for (int which = 0; which < 7; which++) {
+            LandGoods x = Due.worldOf(text);
+            Due.fill(x, 0, 1, 1);
+            x.drop(7);
+            DUE.is("26: NULL ahead of call " + which, x.status(), 1);
+            DUE.is("26: call " + which + " is fine", rowCall(x, which) >= 0 ? 1 : 0, 1);
+            DUE.is("26: status() behind call " + which, x.status(), 0);
+        }
+        LandGoods x = Due.worldOf(text);
+        x.drop(7);
+        Due.feedText(x, text);
+        x.world();
+        x.fault();
+        x.told(0, 0, 0);
+        x.wage(0, 0);
+        x.price(0, 0);
+        x.gain(0, 0, 0);
+        x.chain(0, 1, 0);
+        x.stays(0, 0, 0);
+        x.learn(0, 0, 0);
+        x.move(1);
+        x.on(0);
+        x.edge(0, 0);
+        x.kind(0);
+        x.ask(0, 0);
+        x.trace(0);
+        x.count(0);
+        x.status();
+        DUE.is("26: no other call counts", x.status(), 1);
+        for (int n = 0; n < 51; n++) {
+            x.feed(0, 8);
+        }
+        DUE.is("26: FULL does not count", x.status(), 1);
+    }
+
+    private static long rowCall(LandGoods x, int which) {
+        switch (which) {
+            case 0:
+                return x.row(1, 0, 0);
+            case 1:
+                return x.set(0, 0, 1);
+            case 2:
+                return x.copy(0, 0, 0, 1, 1);
+            case 3:
+                return x.drop(0);
+            case 4:
+                return x.judge(0, 0);
+            case 5:
+                return x.more(0, 0);
+            default:
+                return x.as(0, 4);
+        }
     }
 
     private static void status() {
