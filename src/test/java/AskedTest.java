@@ -128,6 +128,9 @@ public final class AskedTest {
 
     /** "It is told as the last that fits": by how many MAKERS of how many LANDS, and who. */
     private static void kindsByHowManyLands() {
+        DUE.is("22: one land alone is not several", kindsOf(Due.worldOf("good 1;land 1 9;"), 0), 0b010011);
+        DUE.is("22: one land alone, DEAR", kindsOf(Due.worldOf("good 1;land 1 10;"), 0), 0b110011);
+        DUE.is("22: three of three", kindsOf(Due.worldOf("good 1;land 1 9;land 1 9;land 1 9;"), 0), 0b001101);
         kindIs("good 1;land 1 1;", 0, 4);
         kindIs("good 1;land 1 9;", 0, 4);
         kindIs("good 1;land 1 10;", 0, 5);

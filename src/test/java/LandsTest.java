@@ -11,6 +11,7 @@ public final class LandsTest {
         more();
         moreOfThree();
         lessThanOneIsNotOne();
+        byGoodsThatMakeItLeast();
         ofSeveralRingsTheLeast();
         spreadsAsTold();
         stays();
@@ -277,6 +278,22 @@ public final class LandsTest {
         moreIs(Due.worldOf(three + "land 1 10 10 20;land 1 20 10 9;land 1 10 20 10;"), 153, 1, 2, 4);
         moreIs(Due.worldOf(three + "land 1 10 10 20;land 1 20 10 10;land 1 9 20 10;"), 153, 1, 2, 4);
         moreIs(Due.worldOf(three + "land 1 20 20 20;land 1 20 20 20;land 1 20 20 20;"), 0, 7, 7, 7);
+    }
+
+    /** "by GOODS that make it least": by how they are to one another, not by how far they lie apart, in any order. */
+    private static void byGoodsThatMakeItLeast() {
+        // Land 0 gives a good of 1/2, not one of 15/20; land 1 gives one of 3/2: by the other good it would be 9/8.
+        LandGoods x = Due.worldOf("good 1;good 1;good 1;land 1 2 20 3;land 1 1 15 2;");
+        moreIs(x, 17, 1, 1, 2);
+        moreIs(x, 17, 3, 3, 2);
+        moreIs(x, 0, 2, 1, 2);
+        x = Due.worldOf("good 1;good 1;good 1;land 1 20 3 2;land 1 15 2 1;");
+        moreIs(x, 17, 1, 2, 1);
+        moreIs(x, 0, 1, 2, 2);
+        // The same for the one that gives back.
+        x = Due.worldOf("good 1;good 1;good 1;land 1 1 15 2;land 1 2 20 3;");
+        moreIs(x, 17, 2, 2, 1);
+        moreIs(x, 0, 1, 2, 1);
     }
 
     /** "of several the least", and which goods a LAND can give: those that it makes, whoever else does. */

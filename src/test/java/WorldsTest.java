@@ -15,6 +15,8 @@ public final class WorldsTest {
         numbersAsTold();
         howManyGoodsAndLands();
         eachTokenThatIsMissing();
+        eachTokenOfAnotherSort();
+        nothingIsLeftOfATextBefore();
         theFirstTokenThatHasAFault();
         ofOneTokenTheLeast();
         theLatestFault();
@@ -188,7 +190,7 @@ public final class WorldsTest {
             broken("good 1;" + c + "land 1 1;", 7, 1);
         }
         for (String word : new String[] {"a", "z", "g", "goo", "ood", "gooda", "goodz", "goods", "goodgood", "lan", "l",
-            "landa", "landz", "lands", "dnal", "doog", "goodland", "GOOD", "Land"}) {
+            "landa", "landz", "lands", "food", "gold", "goat", "gout", "goof", "wand", "lend", "lard", "lane", "dnal", "doog", "goodland", "GOOD", "Land"}) {
             broken(word + " 1;", 0, 1);
             broken("good 1;" + word + " 1 1;", 7, 1);
             broken("good 1;land 1 1;" + word + " 1 1;", 16, 1);
@@ -308,6 +310,51 @@ public final class WorldsTest {
             } else {
                 broken(text, text.length(), 1);
                 broken(text + " \n", text.length() + 2, 1);
+            }
+        }
+    }
+
+    /** Of a text each token in turn is another one: it cannot stand there, but for a second good, and a land early. */
+    private static void eachTokenOfAnotherSort() {
+        String[] tokens = {"good", "1", ";", "good", "2", ";", "land", "3", "4", "5", ";", "land", "6", "7", "8", ";"};
+        String[] others = {"good", "land", "x", "7", "777", ";", "?", "Good"};
+        for (int at = 0; at < tokens.length; at++) {
+            boolean number = Character.isDigit(tokens[at].charAt(0));
+            StringBuilder ahead = new StringBuilder();
+            for (int i = 0; i < at; i++) {
+                ahead.append(tokens[i]).append(' ');
+            }
+            for (String other : others) {
+                boolean word = (at == 3 || at == 6) && (other.equals("good") || other.equals("land"));
+                if (other.equals(tokens[at]) || number && other.equals("7") || word) {
+                    continue;
+                }
+                String behind = String.join(" ", java.util.Arrays.copyOfRange(tokens, at + 1, tokens.length));
+                broken(ahead + other + " " + behind, ahead.length(), 1);
+            }
+        }
+        // A land after one good has one number for it; a third good has but one number.
+        broken("good 1 ; land 2 ; land 3 4 5 ;", 16, 1);
+        broken("good 1 ; good 2 ; good 3 4 5 ;", 25, 1);
+    }
+
+    /** A text that had a fault at some token leaves nothing by which the next one could be read another way. */
+    private static void nothingIsLeftOfATextBefore() {
+        String[] before = {"good 2;".repeat(7), "good 2;" + "land 3 4;".repeat(4), "good 0;", "good 1;land 9 21;", "good 1",
+            ";", "good 1;land 1 1;"};
+        String[] texts = {"x 1;land 1 1;", "goods 1;land 1 1;", "1;land 1 1;", "good x;land 1 1;", "good 1;lands 1 1;",
+            "good 1;land x 1;", "good 1;land 1 x;", "good 777;land 1 1;", ""};
+        int[] places = {0, 0, 0, 5, 7, 12, 14, 5, 0};
+        for (String first : before) {
+            for (int n = 0; n < texts.length; n++) {
+                LandGoods x = new LandGoods();
+                Due.feedText(x, first);
+                x.world();
+                Due.feedText(x, texts[n]);
+                DUE.is("7: '" + texts[n] + "' behind '" + first + "'", x.world(), LandGoods.NOT - 100 - places[n]);
+                DUE.is("8: fault() of it", x.fault(), 1);
+                Due.feedText(x, "good 1;land 1 1;");
+                DUE.is("7: a world behind it", x.world(), 1);
             }
         }
     }
