@@ -243,11 +243,11 @@ public final class AtRestTest {
     /** "All below is told of WAGES AT REST of the WORLD as it is": nothing of worlds before it is left. */
     private static void eachWorldAnew() {
         String[] texts = {TWINS, "good 2;good 3;good 5;land 1 1 20 20;land 1 20 1 20;land 2 20 20 1;",
-            "good 1;good 1;good 1;good 2;good 2;good 2;"
+            "good 1;good 1;good 1;good 1;good 2;good 4;"
                 + "land 9 1 20 20 1 20 20;land 9 20 1 20 20 1 20;land 9 20 20 1 20 20 1;",
             "good 5;good 2;good 1;good 2;land 6 20 20 1 1;land 5 1 20 20 20;land 4 20 1 20 20;", TIED, APART,
             "good 1;land 5 1;land 7 20;land 99 7;", "good 5;land 7 3;"};
-        String[] wages = {"1/1 1/1 2/1 ", "1/1 3/2 5/4 ", "1/1 1/1 1/1 ", "1/1 2/1 1/1 ", "1/1 2/1 ", "1/1 5/2 ",
+        String[] wages = {"1/1 1/1 2/1 ", "1/1 3/2 5/4 ", "1/1 3/2 5/2 ", "1/1 2/1 1/1 ", "1/1 2/1 ", "1/1 5/2 ",
             "1/1 1/20 1/7 ", "1/1 "};
         for (int first = 0; first < texts.length; first++) {
             for (int second = 0; second < texts.length; second++) {
