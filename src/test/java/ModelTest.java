@@ -9,6 +9,7 @@ public final class ModelTest {
     private static final int[] WILD = {Integer.MIN_VALUE, -1000, -2, -1, 0, 1, 2, 3, 6, 7, 8, 9, 39, 40, 41, 400, 901,
         1000, 70000, Integer.MAX_VALUE};
     private static final int[] SMALL_HOURS = {1, 2, 4, 8, 16};
+    private static final int[] END_HOURS = {1, 2, 19, 20};
 
     private final Random random;
     private LandGoods x;
@@ -170,23 +171,40 @@ public final class ModelTest {
     private String worldText() {
         int goods = 1 + random.nextInt(6);
         int lands = random.nextInt(4) == 0 ? 1 + random.nextInt(2) : 3;
-        int style = random.nextInt(4);
+        int style = random.nextInt(5);
         StringBuilder text = new StringBuilder(gap(false));
         for (int g = 0; g < goods; g++) {
-            text.append("good").append(gap(random.nextInt(9) > 0)).append(number(style < 2 ? 3 : 20));
+            text.append("good").append(gap(random.nextInt(9) > 0)).append(numberBy(style, 3, 20));
             text.append(gap(false)).append(";").append(gap(false));
         }
         int[] before = new int[goods];
         for (int l = 0; l < lands; l++) {
-            text.append("land").append(gap(true)).append(number(style < 2 ? 12 : 99));
+            text.append("land").append(gap(true)).append(numberBy(style, 12, 99));
             for (int g = 0; g < goods; g++) {
-                int h = style == 0 ? SMALL_HOURS[random.nextInt(5)] : 1 + random.nextInt(style == 1 ? 4 : 20);
+                int h = hoursBy(style);
                 before[g] = l > 0 && random.nextInt(8) == 0 ? before[g] : h;
                 text.append(gap(true)).append(before[g]);
             }
             text.append(gap(false)).append(";").append(gap(false));
         }
         return text.toString();
+    }
+
+    private int hoursBy(int style) {
+        return switch (style) {
+            case 0 -> SMALL_HOURS[random.nextInt(SMALL_HOURS.length)];
+            case 1 -> 1 + random.nextInt(4);
+            case 4 -> END_HOURS[random.nextInt(END_HOURS.length)];
+            default -> 1 + random.nextInt(20);
+        };
+    }
+
+    /** Few, many, or, as the greatest wages and the most hands come so, just the least or the most. */
+    private String numberBy(int style, int few, int many) {
+        if (style == 4) {
+            return random.nextBoolean() ? "1" : "" + (many - random.nextInt(2));
+        }
+        return number(style < 2 ? few : many);
     }
 
     private String number(int most) {
